@@ -1294,7 +1294,8 @@ public final class FirstWords {
             sound = s;
             worth = thingsWorthShowing(told, toKinds);
             alongRow[0].become(from);
-            for (length = 0; length <= most && length <= MAX_ROW; length++) {
+            for (int n = 0; n <= most && n <= MAX_ROW; n++) {
+                length = n;
                 if (reaches(this, told, 0)) {
                     return true;
                 }
