@@ -132,14 +132,7 @@ public final class FirstWords {
     }
 
     public int teach(int s, int t) {
-        if (!told.hasSound(s) || !told.hasThing(t)) {
-            return BAD;
-        }
-        if (now.showings >= MAX_SHOWINGS) {
-            return FULL;
-        }
-        takeShowing(s, t, told.isTarget(s, t));
-        return now.showings;
+        return show(s, t, told.isTarget(s, t));
     }
 
     public int undo() {
