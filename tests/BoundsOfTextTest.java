@@ -94,6 +94,9 @@ public final class BoundsOfTextTest {
             FirstWords x = Check.told("thing abcdefgh;thing -;means abcdefgh;means abcd not efgh;means bcdefgh;word 0;plain;");
             x.theirs(0, true);
             Check.due("seven are fewer than eight", x.meant(1), 2);
+            FirstWords z = Check.told("thing abcdefgh;means - not a;means abcdefgh;means b not a;");
+            z.theirs(0, true);
+            Check.due("eight are the most", z.meant(1), 1);
             FirstWords y = Check.told("thing a;means a not bcdefgh;means a not bc;means a not bcd;");
             y.theirs(0, true);
             Check.due("those that it has not count, too", y.meant(1), 1);
@@ -505,6 +508,20 @@ public final class BoundsOfTextTest {
             for (int i = 0; i < texts.length; i++) {
                 Check.due("text " + i, Check.tell(x, texts[i]), lines[i]);
                 if (lines[i] >= 0) tellsAll(x, Check.told(texts[i]));
+            }
+        });
+        Check.sentence("A text that is taken tells all (which MEANINGS just the same THINGS ARE, too)", () -> {
+            FirstWords x = new FirstWords();
+            for (int i = 0; i < 3; i++) {
+                Check.tell(x, "thing ab;means a;means b;word 0;plain sees b;");
+                x.show(0, 0, true);
+                Check.due("the same things are both", x.same(0, 0), 1);
+                Check.tell(x, "thing ab;thing b;means a;means b;word 0;plain sees b;");
+                Check.tell(x, "thing ab;thing b;means a;means b;word 0;plain sees b;");
+                x.show(0, 0, true);
+                Check.due("now thing 1 is one of them alone", x.same(0, 0), 0);
+                Check.due("never(0, 0)", x.never(0, 0), 1);
+                Check.tell(x, "");
             }
         });
         Check.sentence("(what it does not tell is as at first)", () -> {

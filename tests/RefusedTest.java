@@ -26,6 +26,11 @@ public final class RefusedTest {
             Check.sentence("what is refused changes nothing: " + e.getKey(), () -> changesNothing(e.getKey(), e.getValue(), answer, due));
         }
         Check.sentence("but THE TAPE, as told", RefusedTest::theTapeIsEmptied);
+        Check.sentence("BAD -1 (.. there is no such THING, MEANING, SOUND, KIND, SHOWING, IMAGE, SHEET)", RefusedTest::thereIsNoSuch);
+        Check.sentence("STATE -2 (as told)", () -> Check.due("back(1)", Check.told("plain;").back(1), -2));
+        Check.sentence("FULL -3", RefusedTest::full);
+        Check.sentence("NONE -4 (there is none)", RefusedTest::none);
+        Check.sentence("the first that fits", RefusedTest::theFirstThatFits);
         Check.finish();
     }
 
@@ -153,6 +158,77 @@ public final class RefusedTest {
         refused("read(1, 2, 0, 1)", -20, x -> x.read(1, 2, 0, 1));
         refused("read(0, 0, 0, 1) of the full", -3, x -> x.read(0, 0, 0, 1));
         refused("count(9)", -1, x -> x.count(9));
+    }
+
+    private static void thereIsNoSuch() {
+        FirstWords x = Check.told(Check.ALL_ROOM);
+        x.show(3, 7, true);
+        Check.due("THING 7", x.thing(7), 128);
+        Check.due("THING 8", x.thing(8), -1);
+        Check.due("MEANING 11", x.meaning(11, 0), 0);
+        Check.due("MEANING 12", x.meaning(12, 0), -1);
+        Check.due("SOUND 3", x.word(3), 9);
+        Check.due("SOUND 4", x.word(4), -1);
+        Check.due("KIND 5", x.fled(5), 0);
+        Check.due("KIND 6", x.fled(6), -1);
+        Check.due("SHOWING 0", x.shown(0, 0), 3);
+        Check.due("SHOWING 1", x.shown(1, 0), -1);
+        Check.due("IMAGE 1", x.keep(1), 0);
+        Check.due("IMAGE 2", x.keep(2), -1);
+        Check.due("SHEET 3", x.sheet(3, 0, 0), 1);
+        Check.due("SHEET 4", x.sheet(4, 0, 0), -1);
+    }
+
+    private static void full() {
+        FirstWords x = used();
+        Check.due("show(0, 0, true)", x.show(0, 0, true), -3);
+        Check.due("teach(0, 0)", x.teach(0, 0), -3);
+        Check.due("theirs(0, true)", x.theirs(0, true), -3);
+        Check.due("read(0, 0, 0, 1)", x.read(0, 0, 0, 1), -3);
+        for (int i = 0; i < 49; i++) x.feed(0);
+        Check.due("feed(0)", x.feed(0), -3);
+    }
+
+    private static void none() {
+        FirstWords x = new FirstWords();
+        Check.due("undo()", x.undo(), -4);
+        Check.due("order(0, 0) of no sounds is 0", x.order(0, 0), 0);
+        for (int what = 0; what < 3; what++) Check.due("ask(" + what + ")", x.ask(what), -4);
+        Check.due("meant(1)", x.meant(1), -4);
+        Check.due("meant(3)", x.meant(3), -4);
+        Check.due("draw(1)", x.draw(1), -4);
+        Check.due("count(8)", x.count(8), -4);
+        FirstWords y = Check.told("means a;means -;word 0;plain chance 0;");
+        Check.due("thinks(0, 0)", y.thinks(0, 0), -4);
+        Check.due("fled(0)", y.fled(0), -4);
+        Check.due("kind(0, 2)", y.kind(0, 2), -4);
+        Check.due("teaching(1, 0, 0)", y.teaching(1, 0, 0), -4);
+        Check.due("order(1, 0)", y.order(1, 0), -4);
+        Check.due("order(1, 10)", y.order(1, 10), -4);
+        Check.due("first(0, 0)", y.first(0, 0), -4);
+        Check.due("likely(0, 0)", y.likely(0, 0), -4);
+        Check.due("build(0, 2)", y.build(0, 2), -4);
+        Check.due("draw(1)", y.draw(1), -4);
+    }
+
+    private static void theFirstThatFits() {
+        FirstWords x = used();
+        Check.due("BAD ahead of FULL: show(2, 0, true)", x.show(2, 0, true), -1);
+        Check.due("BAD ahead of FULL: teach(0, 3)", x.teach(0, 3), -1);
+        Check.due("BAD ahead of FULL: theirs(3, true)", x.theirs(3, true), -1);
+        Check.due("BAD ahead of FULL: read(0, 0, 0, 14)", x.read(0, 0, 0, 14), -1);
+        Check.due("BAD ahead of NONE: teaching(4, 0, 9)", x.teaching(4, 0, 9), -1);
+        Check.due("BAD ahead of NONE: build(2, 3)", x.build(2, 3), -1);
+        FirstWords y = Check.told("means a;word 0;plain chance 0;");
+        Check.due("BAD ahead of STATE: back(2)", y.back(2), -1);
+        Check.due("BAD ahead of NONE: order(1, 11)", y.order(1, 11), -1);
+        Check.due("BAD ahead of NONE: first(0, 3)", y.first(0, 3), -1);
+        Check.due("BAD ahead of NONE: first(1, 0)", y.first(1, 0), -1);
+        Check.due("BAD ahead of NONE: likely(0, 2)", y.likely(0, 2), -1);
+        Check.due("BAD ahead of NONE: ask(3)", y.ask(3), -1);
+        Check.due("BAD ahead of NONE: meant(4)", y.meant(4), -1);
+        Check.due("BAD ahead of a FAULT: lay(4, 0, 0)", y.lay(4, 0, 0), -1);
+        Check.due("BAD ahead of a FAULT: sheet(4, 0, -1)", y.sheet(4, 0, -1), -1);
     }
 
     private static void theTapeIsEmptied() {
