@@ -23,6 +23,7 @@ import javax.lang.model.element.Modifier;
 import javax.lang.model.element.TypeElement;
 import javax.lang.model.type.ArrayType;
 import javax.lang.model.type.DeclaredType;
+import javax.lang.model.type.TypeKind;
 import javax.lang.model.type.TypeMirror;
 import javax.tools.JavaCompiler;
 import javax.tools.ToolProvider;
@@ -146,7 +147,7 @@ public final class LanguageTest {
         @Override
         public Void visitBinary(BinaryTree t, Void v) {
             if (t.getKind() == Tree.Kind.EQUAL_TO || t.getKind() == Tree.Kind.NOT_EQUAL_TO) {
-                TypeMirror type = trees.getTypeMirror(new TreePath(getCurrentPath(), t.getLeftOperand()));
+                TypeMirror type = typeOf(t.getLeftOperand());
                 rule("rule 6: texts compared by ==", t, !type.toString().equals("java.lang.String"));
             }
             return super.visitBinary(t, v);
@@ -196,7 +197,18 @@ public final class LanguageTest {
             String name = of.getSimpleName() + "." + called.getSimpleName();
             rule("rule 4: " + name, t, isOwn || isOfObject || LIBRARY.contains(name));
             if (isOwn) call(called);
+            if (name.equals("System.arraycopy")) {
+                for (int i = 0; i < 4; i += 2) rule("rule 4: a copy of " + t.getArguments().get(i), t, isRowOfNumbers(typeOf(t.getArguments().get(i))));
+            }
             return super.visitMethodInvocation(t, v);
+        }
+
+        private TypeMirror typeOf(Tree t) {
+            return trees.getTypeMirror(new TreePath(getCurrentPath(), t));
+        }
+
+        private static boolean isRowOfNumbers(TypeMirror type) {
+            return type instanceof ArrayType a && a.getComponentType().getKind().isPrimitive() && a.getComponentType().getKind() != TypeKind.BOOLEAN;
         }
 
         private void call(Element called) {

@@ -1083,9 +1083,14 @@ public final class FirstWords {
             theirs = other.theirs;
             System.arraycopy(other.sound, 0, sound, 0, MAX_SHOWINGS);
             System.arraycopy(other.thing, 0, thing, 0, MAX_SHOWINGS);
-            System.arraycopy(other.so, 0, so, 0, MAX_SHOWINGS);
             System.arraycopy(other.theirThing, 0, theirThing, 0, MAX_THEIRS);
-            System.arraycopy(other.theirSo, 0, theirSo, 0, MAX_THEIRS);
+            // Rows of numbers alone are copied by the library.
+            for (int i = 0; i < MAX_SHOWINGS; i++) {
+                so[i] = other.so[i];
+            }
+            for (int i = 0; i < MAX_THEIRS; i++) {
+                theirSo[i] = other.theirSo[i];
+            }
         }
     }
 
